@@ -786,6 +786,8 @@ public final class OverTheHeads {
 
     /** A ROW of seats; its KIND settles, when it is made, how its PLACES, FLOOR, FAR and LOW differ. */
     private static class Row {
+        static final int SEAT_WIDTH = 2;
+
         final int kind, number, seats;
         final int[] sorts = new int[MOST_SEATS];
         int rise = 0, shift = 0;
@@ -800,7 +802,7 @@ public final class OverTheHeads {
         }
 
         int placeOf(int c) {
-            return 2 * c + shift + aside;
+            return SEAT_WIDTH * c + shift + aside;
         }
 
         int floor() {
@@ -872,10 +874,6 @@ public final class OverTheHeads {
 
         boolean isTouchedBy(int distance, int top) {
             return top * far >= pointHigh * far + up * distance;
-        }
-
-        boolean meetsPost(int distance, int place) {
-            return distance < far && Math.abs(besides(distance, place)) < far;
         }
     }
 
@@ -971,22 +969,21 @@ public final class OverTheHeads {
                 return SEEN;
             }
             int near = line.far;
-            for (int c = 0; c < ahead.seats; c++) {
-                int besides = line.besides(ahead.far, ahead.placeOf(c));
-                // the seats farther on only have greater PLACES
-                if (besides < -near) {
-                    return SEEN;
-                }
+            int besides = line.besides(ahead.far, ahead.placeOf(0));
+            // from seat to seat the PLACES only grow: beyond the LINE none comes near any more
+            for (int c = 0; c < ahead.seats && besides >= -near; c++) {
                 if (besides <= near && line.isTouchedBy(ahead.far, topOf(ahead, c))) {
                     return c;
                 }
+                besides -= Row.SEAT_WIDTH * line.far;
             }
             return SEEN;
         }
 
         private int hidingPost() {
             for (int k = 0; k < postCount; k++) {
-                if (line.meetsPost(postFars[k], postPlaces[k])) {
+                int besides = line.besides(postFars[k], postPlaces[k]);
+                if (postFars[k] < line.far && Math.abs(besides) < line.far) {
                     return k;
                 }
             }

@@ -362,6 +362,9 @@ public final class PromiseTests {
         fault("like valu;price 1;cost 1;", 5);
         fault("like values;price 1;cost 1;", 5);
         fault("likevalue;price 1;cost 1;", 0);
+        fault("likez value;price 1;cost 1;", 0);
+        fault("likea value;price 1;cost 1;", 0);
+        fault("tike value;price 1;cost 1;", 0);
         fault("Like value;price 1;cost 1;", 0);
         fault("like Value;price 1;cost 1;", 5);
         fault("like 1/2;price 1;cost 1;", 6);
@@ -680,6 +683,11 @@ public final class PromiseTests {
         OverTheHeads y = hallOf(1);
         sheetOf(y, 0, 99);
         Due.is("no points", y.judge(0), NONE);
+        y.point(0, 0, 5);
+        y.post(0, 5);
+        y.set(0, 0, 3);
+        Due.is("the first row", y.judge(0), 0);
+        Due.is("its RISE as it was", y.set(0, 0, 0), 3);
     }
 
     private static void chanceIs(OverTheHeads x, int r, int c, int p, long above, long below) {
@@ -958,6 +966,10 @@ public final class PromiseTests {
         read(h, "like (high=63)+(high=65);price 0;cost 0;");
         h.force(1);
         Due.is("above 60, by the law", h.stage(), 3);
+        read(h, "like high-60;price 0;cost 0;");
+        h.force(2);
+        Due.is("the highest", h.stage(), 10);
+        Due.is("as high as it was", h.all(1), 0);
     }
 
     private static void swap() {
@@ -1004,6 +1016,11 @@ public final class PromiseTests {
         x.sit(0, 3, 0);
         Due.is("none makes it greater", x.people(0, 0), NONE);
         Due.is("by nothing", x.people(0, 1), 0);
+        x.sit(0, 0, 0);
+        x.sit(0, 1, 0);
+        x.sit(0, 2, 1);
+        x.sit(0, 3, 2);
+        Due.is("still the first by seats", x.people(0, 0), 3);
         Due.is("no row", x.people(2, 0), -5);
         Due.is("no row ahead of what", x.people(2, 9), -5);
         Due.is("what -1", x.people(0, -1), -7);
@@ -1014,6 +1031,17 @@ public final class PromiseTests {
         y.force(1);
         Due.is("the greatest", y.people(0, 0), 13);
         Due.is("by its gain", y.people(0, 1), 8);
+        // PLACES 0 to 14: the last two seats alone
+        OverTheHeads z = hallOf(8);
+        z.point(0, 60, 1);
+        read(z, "like (place=12)*sort;price 0;cost 0;");
+        z.force(1);
+        z.sit(0, 7, 3);
+        Due.is("the last two", z.people(0, 0), 67);
+        Due.is("the last two, by their gain", z.people(0, 1), 3);
+        Due.is("they change", z.settle(0, 5), 1);
+        Due.is("there", z.told(0, 6, 4), 3);
+        Due.is("and there", z.told(0, 7, 4), 0);
     }
 
     private static void settle() {
@@ -1088,6 +1116,21 @@ public final class PromiseTests {
         y.moves(0, 0, 9);
         // LINES at 0, 0.4, 0.8, 1.2, 1.6, 2: at 3 none
         Due.is("beyond all", y.least(0), 3);
+        OverTheHeads z = hallOf(1);
+        for (int p = 0; p < 6; p++) {
+            z.point(4 * p, 0, 50);
+        }
+        z.post(0, 1);
+        z.moves(0, 19, 1);
+        // LINES at 0, 3.6, 7.2, 10.8, 14.4, 18: 19 and 20 are free as well, but 1 is less
+        Due.is("the least of many", z.least(0), 1);
+        // LINES at 9: from ROW 0 to 0 and 20 less than 1 beside all of 0 to 15, from ROW 1 to 20 at 14.7 to 18.94
+        OverTheHeads last = hallOf(8);
+        last.row(3, 5, 9);
+        last.point(0, 60, 10);
+        last.point(20, 60, 10);
+        last.post(0, 9);
+        Due.is("the last place", last.least(0), 20);
     }
 
     private static void sell() {
@@ -1105,12 +1148,17 @@ public final class PromiseTests {
         // 20, 20, 60: 60, 60
         Due.is("the least of like ones", x.sell(0), 20);
         Due.is("the least, in all", x.sell(1), 60);
-        read(x, "like 0;price 0;cost 0;");
+        read(x, "like 0;price 60-place*25;cost 0;");
         x.force(3);
+        // 60, 10, 0: 60, 20
+        Due.is("the first one's", x.sell(0), 60);
+        Due.is("the first one's, in all", x.sell(1), 60);
+        read(x, "like 0;price 0;cost 0;");
+        x.force(4);
         Due.is("nothing comes in", x.sell(0), 0);
         Due.is("nothing in all", x.sell(1), 0);
         read(x, "like 0;price 5000;cost 0;");
-        x.force(4);
+        x.force(5);
         Due.is("the highest", x.sell(0), 999);
         Due.is("the highest, in all", x.sell(1), 2997);
         Due.is("what -1", x.sell(-1), BAD);
@@ -1162,6 +1210,7 @@ public final class PromiseTests {
         x.point(0, 0, 7);
         x.set(1, 0, 9);
         x.set(1, 1, 1);
+        x.set(0, 1, 1);
         x.sit(0, 1, 2);
         x.sort(2, 0, 1);
         x.sort(2, 1, 2);
@@ -1172,6 +1221,7 @@ public final class PromiseTests {
         Due.is("back", x.back(), 3);
         Due.is("RISE", x.set(1, 0, 1), 9);
         Due.is("SHIFT", x.set(1, 1, 0), 1);
+        Due.is("the first SHIFT", x.set(0, 1, 0), 1);
         Due.is("who sits", x.told(0, 1, 4), 2);
         Due.is("EYE", x.sort(2, 0, 5), 1);
         Due.is("HEAD", x.sort(2, 1, 5), 2);
@@ -1197,6 +1247,7 @@ public final class PromiseTests {
     private static void changeAll(OverTheHeads x) {
         x.set(1, 0, 50);
         x.set(1, 1, 0);
+        x.set(0, 1, 0);
         x.sit(0, 1, 3);
         x.sort(2, 0, 20);
         x.sort(2, 1, 20);
@@ -1283,6 +1334,8 @@ public final class PromiseTests {
         Due.is("as they were, back", x.thursday(2), 0);
         Due.is("sheet -1", x.copy(-1, 0, 0, 0, 0), BAD);
         Due.is("other 4", x.copy(0, 0, 4, 0, 0), BAD);
+        Due.is("sheet 4", x.copy(4, 0, 0, 0, 0), BAD);
+        Due.is("other -1", x.copy(0, 0, -1, 0, 0), BAD);
         x.sheet(3, -1, 0);
         Due.is("missing", x.copy(3, 0, 0, 0, 0), -11);
         Due.is("other missing", x.copy(0, 0, 3, 0, -1), -11);
@@ -1322,6 +1375,8 @@ public final class PromiseTests {
         Due.is("too short", x.sitters(0, 2, 0, 3), -12);
         Due.is("what stood ahead", x.told(0, 1, 4), 1);
         Due.is("nothing behind", x.told(0, 2, 4), 2);
+        sheetOf(x, 3, 2, 2);
+        Due.is("the last sheet", x.sitters(3, 2, 1, 2), 2);
         x.sheet(2, 0, 1);
         x.cell(2, 0, 259);
         Due.is("of bytes", x.sitters(2, 0, 1, 1), 1);
