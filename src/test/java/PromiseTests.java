@@ -430,6 +430,10 @@ public final class PromiseTests {
         Due.is("not ahead of and", likeBy("not 1 and 0"), 0);
         Due.is("sums compared", likeBy("1+1<1*3"), 1);
         Due.is("wrapping", likeBy("(9999*9999*22<0)*8+(9999*9999*43-4172*1000=747)"), 9);
+        // all that can wait for its right side, in each of six nested E
+        String waiting = "0or 1and 2=1+1*(".repeat(5) + "0or 1and 2=1+1*";
+        Due.is("much waiting", likeBy(waiting + "1)))))"), 1);
+        Due.is("much waiting, for 0", likeBy(waiting + "0)))))"), 0);
         Due.is("wrapped", likeBy("((4096*4096*256)=0)+7"), 8);
     }
 
@@ -678,6 +682,8 @@ public final class PromiseTests {
         Due.is("a number below", x.judge(1), BAD);
         sheetOf(x, 1, 0, 0, 100);
         Due.is("a number above", x.judge(1), BAD);
+        sheetOf(x, 1, -1, 0, 0);
+        Due.is("the first number", x.judge(1), BAD);
         sheetOf(x, 1, 0, 99, 99);
         Due.is("the greatest", x.judge(1), 2);
         OverTheHeads y = hallOf(1);
