@@ -295,8 +295,7 @@ public final class OverTheHeads {
             return BAD;
         }
         for (int r = 0; r < hall.rowCount; r++) {
-            int step = hall.stepOf(r);
-            if (step > most || step < 0) {
+            if (Math.abs(hall.stepOf(r)) > most) {
                 return r;
             }
         }

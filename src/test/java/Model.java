@@ -627,7 +627,7 @@ final class Model {
             return BAD;
         }
         for (int r = 0; r < h.rows; r++) {
-            if (h.rise[r] > h.riseAhead(r) + most || h.rise[r] < h.riseAhead(r)) {
+            if (h.rise[r] > h.riseAhead(r) + most || h.rise[r] < h.riseAhead(r) - most) {
                 return r;
             }
         }

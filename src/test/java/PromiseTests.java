@@ -650,12 +650,47 @@ public final class PromiseTests {
         Due.is("by 2", x.lawful(2), 0);
         Due.is("by 3", x.lawful(3), 1);
         Due.is("by 5", x.lawful(5), NONE);
+        Due.is("up by one more than 4", x.lawful(4), 1);
         x.set(2, 0, 7);
-        Due.is("below the one ahead", x.lawful(99), 2);
-        Due.is("the first one", x.lawful(4), 1);
+        Due.is("down by 1, up by just 5", x.lawful(5), NONE);
+        x.set(2, 0, 3);
+        Due.is("down by just 5", x.lawful(5), NONE);
+        x.set(2, 0, 2);
+        Due.is("down by one more than 5", x.lawful(5), 2);
+        Due.is("down by just 6", x.lawful(6), NONE);
+        Due.is("the first one of two", x.lawful(4), 1);
+        x.set(0, 0, 8);
+        Due.is("the first ROW up by just 8", x.lawful(8), NONE);
+        Due.is("the first ROW up by one more than 7", x.lawful(7), 0);
+        x.set(0, 0, 99);
+        x.set(1, 0, 0);
+        x.set(2, 0, 99);
+        Due.is("by 99 up, down, up", x.lawful(99), NONE);
+        x.set(0, 0, 0);
+        x.set(1, 0, 1);
+        x.set(2, 0, 0);
+        Due.is("up by 1 ahead of down by 1", x.lawful(0), 1);
+        x.set(0, 0, 1);
+        x.set(1, 0, 1);
+        Due.is("the first ROW up by 1", x.lawful(0), 0);
+        Due.is("down by just 1", x.lawful(1), NONE);
+        onlyDown();
         Due.is("most -1", x.lawful(-1), BAD);
         Due.is("most 100", x.lawful(100), BAD);
         Due.is("no rows", new OverTheHeads().lawful(0), NONE);
+    }
+
+    /** A step down that is more, while no step up is. */
+    private static void onlyDown() {
+        OverTheHeads x = hallOf(1, 1, 1, 1);
+        int[] rises = {4, 8, 12, 6};
+        for (int r = 0; r < rises.length; r++) {
+            x.set(r, 0, rises[r]);
+        }
+        Due.is("down by 6", x.lawful(5), 3);
+        Due.is("down by just 6 behind steps up", x.lawful(6), NONE);
+        Due.is("up by just 4, thrice, and down by 6", x.lawful(4), 3);
+        Due.is("up by one more than 3", x.lawful(3), 0);
     }
 
     private static void judge() {
