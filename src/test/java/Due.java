@@ -1,15 +1,21 @@
 /** Counts answers that are due, prints those that are not as due, and ends the program by them. */
 final class Due {
     private static int asked = 0, wrong = 0;
+    private static String sentence = "";
 
     private Due() {
+    }
+
+    /** What is asked from here on belongs to a sentence of the document: it is told with what isn't as due. */
+    static void about(String promiseAndSentence) {
+        sentence = promiseAndSentence + ": ";
     }
 
     static void is(String call, long got, long want) {
         asked++;
         if (got != want) {
             wrong++;
-            System.out.println(call + " answered " + got + ", due is " + want);
+            System.out.println(sentence + call + " answered " + got + ", due is " + want);
         }
     }
 
@@ -17,7 +23,7 @@ final class Due {
         asked++;
         if (!holds) {
             wrong++;
-            System.out.println("not so: " + what);
+            System.out.println(sentence + "not so: " + what);
         }
     }
 

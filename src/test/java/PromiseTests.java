@@ -1,7 +1,7 @@
 /** For each promise of the document: ordinary inputs, the edges that it names, wrong inputs. */
 public final class PromiseTests {
-    private static final int NONE = -1, BAD = -2, STATE = -3, FULL = -4;
-    private static final long NO = -4611686018427387904L;
+    private static final int NONE = Halls.NONE, BAD = Halls.BAD, STATE = Halls.STATE, FULL = Halls.FULL;
+    private static final long NO = Halls.NO;
 
     public static void main(String[] args) {
         newObject();
@@ -51,54 +51,6 @@ public final class PromiseTests {
         sitters();
         taken();
         Due.end();
-    }
-
-    // ---- helpers
-
-    /** A hall of plain ROWS of so many seats each. */
-    private static OverTheHeads hallOf(int... seats) {
-        OverTheHeads x = new OverTheHeads();
-        for (int n : seats) {
-            x.row(0, n, 0);
-        }
-        return x;
-    }
-
-    /** The text comes onto THE TAPE. */
-    private static void lay(OverTheHeads x, String text) {
-        for (int i = 0; i < text.length(); i++) {
-            x.feed(text.charAt(i), 1);
-        }
-    }
-
-    private static int read(OverTheHeads x, String text) {
-        lay(x, text);
-        return x.text();
-    }
-
-    /** What an E of the like part of a text comes to for a POINT of VALUE 30, HIGH 20 seen from ROW 1, seat 0. */
-    private static int likeBy(String e) {
-        OverTheHeads x = hallOf(1, 1);
-        x.point(20, 20, 30);
-        x.set(1, 0, 40);
-        x.sit(1, 0, 3);
-        Due.is("text of like " + e, read(x, "like " + e + ";price 0;cost 0;"), 1);
-        x.force(1);
-        return x.worth(1, 0);
-    }
-
-    private static void fault(String text, int place) {
-        OverTheHeads x = new OverTheHeads();
-        Due.is("text: " + text, read(x, text), -100 - place);
-        Due.is("THE TAPE behind " + text, x.count(5), 0);
-        Due.is("TEXTS behind " + text, x.count(3), 1);
-    }
-
-    private static void sheetOf(OverTheHeads x, int s, int... numbers) {
-        x.sheet(s, 2, numbers.length);
-        for (int i = 0; i < numbers.length; i++) {
-            x.cell(s, i, numbers[i]);
-        }
     }
 
     // ---- promises
@@ -168,7 +120,7 @@ public final class PromiseTests {
     }
 
     private static void set() {
-        OverTheHeads x = hallOf(2, 2);
+        OverTheHeads x = Halls.hallOf(2, 2);
         Due.is("rise", x.set(1, 0, 99), 0);
         Due.is("rise was", x.set(1, 0, 5), 99);
         Due.is("shift", x.set(1, 1, 1), 0);
@@ -188,7 +140,7 @@ public final class PromiseTests {
     }
 
     private static void sit() {
-        OverTheHeads x = hallOf(2);
+        OverTheHeads x = Halls.hallOf(2);
         Due.is("sits", x.sit(0, 1, 3), 0);
         Due.is("sat", x.sit(0, 1, 2), 3);
         Due.is("now", x.told(0, 1, 4), 2);
@@ -284,11 +236,11 @@ public final class PromiseTests {
     }
 
     private static void count() {
-        OverTheHeads x = hallOf(1, 2, 3);
+        OverTheHeads x = Halls.hallOf(1, 2, 3);
         x.point(0, 0, 0);
         x.point(0, 0, 0);
         x.post(0, 1);
-        read(x, "like 1;price 1;cost 1;");
+        Halls.read(x, "like 1;price 1;cost 1;");
         x.force(1);
         x.feed(0, 7);
         int[] due = {3, 2, 1, 2, 1, 7};
@@ -327,120 +279,120 @@ public final class PromiseTests {
         OverTheHeads x = new OverTheHeads();
         String text = "like 1;price 1;cost 1;";
         for (int t = 1; t < 6; t++) {
-            Due.is("text " + t, read(x, text), t);
+            Due.is("text " + t, Halls.read(x, text), t);
             Due.is("tape behind " + t, x.count(5), 0);
         }
         Due.is("texts", x.count(3), 6);
-        lay(x, "nonsense");
+        Halls.lay(x, "nonsense");
         Due.is("full ahead of the fault", x.text(), FULL);
         Due.is("tape stays", x.count(5), 8);
         Due.is("the law stays", x.count(4), 0);
         OverTheHeads y = new OverTheHeads();
-        Due.is("blanks between", read(y, "\n like\n1 ;price(2);cost-3 ; \n"), 1);
-        Due.is("as close as can be", read(y, "like(value)or not(1);price value<2-3*4;cost--1;"), 2);
+        Due.is("blanks between", Halls.read(y, "\n like\n1 ;price(2);cost-3 ; \n"), 1);
+        Due.is("as close as can be", Halls.read(y, "like(value)or not(1);price value<2-3*4;cost--1;"), 2);
         StringBuilder longest = new StringBuilder("like 1");
         while (longest.length() < 160 - ";price 1;cost 1;".length()) {
             longest.append("+1");
         }
-        Due.is("160 bytes", read(y, longest.append(";price 1;cost 1;").toString()), 3);
+        Due.is("160 bytes", Halls.read(y, longest.append(";price 1;cost 1;").toString()), 3);
     }
 
     private static void textFaults() {
-        fault("", 0);
-        fault("   ", 3);
-        fault("like", 4);
-        fault("like ", 5);
-        fault("like value", 10);
-        fault("like value ; price 1 ; cost 1", 29);
-        fault("like value ; price 1 ; cost 1 \n", 31);
-        fault("like 1;price 1;cost 1; ;", 23);
-        fault("price 1;", 0);
-        fault("like 1;cost 1;price 1;", 7);
-        fault("like 1 price 1;cost 1;", 7);
-        fault("like ;price 1;cost 1;", 5);
-        fault("like price;price 1;cost 1;", 5);
-        fault("like valu;price 1;cost 1;", 5);
-        fault("like values;price 1;cost 1;", 5);
-        fault("likevalue;price 1;cost 1;", 0);
-        fault("likez value;price 1;cost 1;", 0);
-        fault("likea value;price 1;cost 1;", 0);
-        fault("tike value;price 1;cost 1;", 0);
-        fault("Like value;price 1;cost 1;", 0);
-        fault("like Value;price 1;cost 1;", 5);
-        fault("like 1/2;price 1;cost 1;", 6);
-        fault("like 1\t;price 1;cost 1;", 6);
-        fault("like 1 > 2;price 1;cost 1;", 7);
-        fault("like 00001;price 1;cost 1;", 5);
-        fault("like 1+12345;price 1;cost 1;", 7);
-        fault("like 1 2;price 1;cost 1;", 7);
-        fault("like 12value;price 1;cost 1;", 7);
-        fault("like 1+;price 1;cost 1;", 7);
-        fault("like *1;price 1;cost 1;", 5);
-        fault("like +1;price 1;cost 1;", 5);
-        fault("like 1<2<3;price 1;cost 1;", 8);
-        fault("like 1=2=3;price 1;cost 1;", 8);
-        fault("like 1+not 2;price 1;cost 1;", 7);
-        fault("like 1<not 2;price 1;cost 1;", 7);
-        fault("like -not 2;price 1;cost 1;", 6);
-        fault("like or 1;price 1;cost 1;", 5);
-        fault("like 1 and;price 1;cost 1;", 10);
-        fault("like (1;price 1;cost 1;", 7);
-        fault("like 1);price 1;cost 1;", 6);
-        fault("like ();price 1;cost 1;", 6);
-        fault("like ((((((1))))));price 1;cost 1;", 10);
-        fault("like ------1;price 1;cost 1;", 10);
-        fault("like not not not not not not 1;price 1;cost 1;", 25);
-        fault("like not(-(-(1)));price 1;cost 1;", 12);
-        fault("like 1;price ((((1-(1))))+((((((1))))));cost 1;", 30);
-        fault("like not not(-(- - 1));price 1;cost 1;", 15);
-        fault("like not(-(- - 1));price 1;cost 1;", 13);
+        Halls.fault("", 0);
+        Halls.fault("   ", 3);
+        Halls.fault("like", 4);
+        Halls.fault("like ", 5);
+        Halls.fault("like value", 10);
+        Halls.fault("like value ; price 1 ; cost 1", 29);
+        Halls.fault("like value ; price 1 ; cost 1 \n", 31);
+        Halls.fault("like 1;price 1;cost 1; ;", 23);
+        Halls.fault("price 1;", 0);
+        Halls.fault("like 1;cost 1;price 1;", 7);
+        Halls.fault("like 1 price 1;cost 1;", 7);
+        Halls.fault("like ;price 1;cost 1;", 5);
+        Halls.fault("like price;price 1;cost 1;", 5);
+        Halls.fault("like valu;price 1;cost 1;", 5);
+        Halls.fault("like values;price 1;cost 1;", 5);
+        Halls.fault("likevalue;price 1;cost 1;", 0);
+        Halls.fault("likez value;price 1;cost 1;", 0);
+        Halls.fault("likea value;price 1;cost 1;", 0);
+        Halls.fault("tike value;price 1;cost 1;", 0);
+        Halls.fault("Like value;price 1;cost 1;", 0);
+        Halls.fault("like Value;price 1;cost 1;", 5);
+        Halls.fault("like 1/2;price 1;cost 1;", 6);
+        Halls.fault("like 1\t;price 1;cost 1;", 6);
+        Halls.fault("like 1 > 2;price 1;cost 1;", 7);
+        Halls.fault("like 00001;price 1;cost 1;", 5);
+        Halls.fault("like 1+12345;price 1;cost 1;", 7);
+        Halls.fault("like 1 2;price 1;cost 1;", 7);
+        Halls.fault("like 12value;price 1;cost 1;", 7);
+        Halls.fault("like 1+;price 1;cost 1;", 7);
+        Halls.fault("like *1;price 1;cost 1;", 5);
+        Halls.fault("like +1;price 1;cost 1;", 5);
+        Halls.fault("like 1<2<3;price 1;cost 1;", 8);
+        Halls.fault("like 1=2=3;price 1;cost 1;", 8);
+        Halls.fault("like 1+not 2;price 1;cost 1;", 7);
+        Halls.fault("like 1<not 2;price 1;cost 1;", 7);
+        Halls.fault("like -not 2;price 1;cost 1;", 6);
+        Halls.fault("like or 1;price 1;cost 1;", 5);
+        Halls.fault("like 1 and;price 1;cost 1;", 10);
+        Halls.fault("like (1;price 1;cost 1;", 7);
+        Halls.fault("like 1);price 1;cost 1;", 6);
+        Halls.fault("like ();price 1;cost 1;", 6);
+        Halls.fault("like ((((((1))))));price 1;cost 1;", 10);
+        Halls.fault("like ------1;price 1;cost 1;", 10);
+        Halls.fault("like not not not not not not 1;price 1;cost 1;", 25);
+        Halls.fault("like not(-(-(1)));price 1;cost 1;", 12);
+        Halls.fault("like 1;price ((((1-(1))))+((((((1))))));cost 1;", 30);
+        Halls.fault("like not not(-(- - 1));price 1;cost 1;", 15);
+        Halls.fault("like not(-(- - 1));price 1;cost 1;", 13);
         // binary minus, and what is closed again, is not open
         OverTheHeads x = new OverTheHeads();
-        Due.is("five open", read(x, "like(((((1)))));price-----1;cost not not not not not 1;"), 1);
-        Due.is("closed again", read(x, "like(((((1)))))+(((((1)))))*-----1;price 1;cost 1;"), 2);
-        Due.is("a minus between", read(x, "like(((((1-1-1-1)))));price not 1 and not 1 or not 1 and not 1 and not 1 or not 1;cost 1;"), 3);
-        Due.is("five of each sort", read(x, "like not(-(-1));price(-(-(1)));cost 1;"), 4);
+        Due.is("five open", Halls.read(x, "like(((((1)))));price-----1;cost not not not not not 1;"), 1);
+        Due.is("closed again", Halls.read(x, "like(((((1)))))+(((((1)))))*-----1;price 1;cost 1;"), 2);
+        Due.is("a minus between", Halls.read(x, "like(((((1-1-1-1)))));price not 1 and not 1 or not 1 and not 1 and not 1 or not 1;cost 1;"), 3);
+        Due.is("five of each sort", Halls.read(x, "like not(-(-1));price(-(-(1)));cost 1;"), 4);
     }
 
     private static void textValues() {
-        Due.is("value", likeBy("value"), 30);
-        Due.is("high", likeBy("high"), 20);
-        Due.is("row", likeBy("row"), 1);
-        Due.is("place", likeBy("place"), 0);
-        Due.is("rise", likeBy("rise"), 40);
-        Due.is("sort", likeBy("sort"), 3);
-        Due.is("number", likeBy("0042"), 42);
-        Due.is("below the bound", likeBy("-1"), 0);
-        Due.is("at the bound", likeBy("99"), 99);
-        Due.is("above the bound", likeBy("100"), 99);
-        Due.is("times first", likeBy("2+3*4"), 14);
-        Due.is("left first", likeBy("20-3-4"), 13);
-        Due.is("in brackets", likeBy("(2+3)*4"), 20);
-        Due.is("minus of a one", likeBy("-2*-3"), 6);
-        Due.is("minus of minus", likeBy("--7"), 7);
-        Due.is("less", likeBy("(1<2)*8+(2<2)*4+(3<2)*2+(-1<1)"), 9);
-        Due.is("like", likeBy("(1=2)*8+(2=2)*4+(3=2)*2"), 4);
-        Due.is("or, and", likeBy("7 or 0 and 0"), 1);
-        Due.is("and first", likeBy("(0 and 1 or 5)*2"), 2);
-        Due.is("neither", likeBy("0 or 0"), 0);
-        Due.is("not both", likeBy("1 and 0"), 0);
-        Due.is("both", likeBy("3 and -4"), 1);
-        Due.is("not", likeBy("(not 0)*4+(not 5)*2+(not not 5)"), 5);
-        Due.is("not of a comparison", likeBy("not 1 < 0"), 1);
-        Due.is("not ahead of and", likeBy("not 1 and 0"), 0);
-        Due.is("sums compared", likeBy("1+1<1*3"), 1);
-        Due.is("wrapping", likeBy("(9999*9999*22<0)*8+(9999*9999*43-4172*1000=747)"), 9);
+        Due.is("value", Halls.likeBy("value"), 30);
+        Due.is("high", Halls.likeBy("high"), 20);
+        Due.is("row", Halls.likeBy("row"), 1);
+        Due.is("place", Halls.likeBy("place"), 0);
+        Due.is("rise", Halls.likeBy("rise"), 40);
+        Due.is("sort", Halls.likeBy("sort"), 3);
+        Due.is("number", Halls.likeBy("0042"), 42);
+        Due.is("below the bound", Halls.likeBy("-1"), 0);
+        Due.is("at the bound", Halls.likeBy("99"), 99);
+        Due.is("above the bound", Halls.likeBy("100"), 99);
+        Due.is("times first", Halls.likeBy("2+3*4"), 14);
+        Due.is("left first", Halls.likeBy("20-3-4"), 13);
+        Due.is("in brackets", Halls.likeBy("(2+3)*4"), 20);
+        Due.is("minus of a one", Halls.likeBy("-2*-3"), 6);
+        Due.is("minus of minus", Halls.likeBy("--7"), 7);
+        Due.is("less", Halls.likeBy("(1<2)*8+(2<2)*4+(3<2)*2+(-1<1)"), 9);
+        Due.is("like", Halls.likeBy("(1=2)*8+(2=2)*4+(3=2)*2"), 4);
+        Due.is("or, and", Halls.likeBy("7 or 0 and 0"), 1);
+        Due.is("and first", Halls.likeBy("(0 and 1 or 5)*2"), 2);
+        Due.is("neither", Halls.likeBy("0 or 0"), 0);
+        Due.is("not both", Halls.likeBy("1 and 0"), 0);
+        Due.is("both", Halls.likeBy("3 and -4"), 1);
+        Due.is("not", Halls.likeBy("(not 0)*4+(not 5)*2+(not not 5)"), 5);
+        Due.is("not of a comparison", Halls.likeBy("not 1 < 0"), 1);
+        Due.is("not ahead of and", Halls.likeBy("not 1 and 0"), 0);
+        Due.is("sums compared", Halls.likeBy("1+1<1*3"), 1);
+        Due.is("wrapping", Halls.likeBy("(9999*9999*22<0)*8+(9999*9999*43-4172*1000=747)"), 9);
         // all that can wait for its right side, in each of six nested E
         String waiting = "0or 1and 2=1+1*(".repeat(5) + "0or 1and 2=1+1*";
-        Due.is("much waiting", likeBy(waiting + "1)))))"), 1);
-        Due.is("much waiting, for 0", likeBy(waiting + "0)))))"), 0);
-        Due.is("wrapped", likeBy("((4096*4096*256)=0)+7"), 8);
+        Due.is("much waiting", Halls.likeBy(waiting + "1)))))"), 1);
+        Due.is("much waiting, for 0", Halls.likeBy(waiting + "0)))))"), 0);
+        Due.is("wrapped", Halls.likeBy("((4096*4096*256)=0)+7"), 8);
     }
 
     private static void force() {
-        OverTheHeads x = hallOf(1);
+        OverTheHeads x = Halls.hallOf(1);
         x.point(0, 0, 10);
-        read(x, "like 3;price 1;cost 1;");
+        Halls.read(x, "like 3;price 1;cost 1;");
         Due.is("force 1", x.force(1), 0);
         Due.is("by it", x.worth(0, 0), 3);
         Due.is("force again", x.force(1), 1);
@@ -452,7 +404,7 @@ public final class PromiseTests {
     }
 
     private static void hidden() {
-        OverTheHeads x = hallOf(2, 2, 2);
+        OverTheHeads x = Halls.hallOf(2, 2, 2);
         x.point(1, 0, 5);
         // from PLACE 0 the LINE is at 0.33 and 0.67, its height at 3.3 and 6.7: both heads ahead touch it
         Due.is("first by rows, then seats", x.hidden(2, 0, 0), 0);
@@ -469,7 +421,7 @@ public final class PromiseTests {
         Due.is("point -1", x.hidden(0, 0, -1), -7);
 
         // just 1 away still hides: POINT at 1, sitter at 1 (SHIFT), heads at 0 and 2
-        OverTheHeads y = hallOf(2, 1);
+        OverTheHeads y = Halls.hallOf(2, 1);
         y.point(1, 0, 5);
         y.set(1, 1, 1);
         Due.is("1 to the left", y.hidden(1, 0, 0), 0);
@@ -478,7 +430,7 @@ public final class PromiseTests {
         Due.is("1 to the right", y.hidden(1, 0, 0), 1);
 
         // as high as the LINE hides, lower doesn't: eyes at 10, POINT at 20, LINE at 15 half the way
-        OverTheHeads z = hallOf(1, 1);
+        OverTheHeads z = Halls.hallOf(1, 1);
         z.point(0, 20, 5);
         Due.is("a head at 14", z.hidden(1, 0, 0), -1);
         z.sort(1, 1, 15);
@@ -501,7 +453,7 @@ public final class PromiseTests {
     }
 
     private static void hiddenByPosts() {
-        OverTheHeads x = hallOf(1, 1, 1);
+        OverTheHeads x = Halls.hallOf(1, 1, 1);
         x.sort(0, 1, 0);
         x.point(0, 0, 5);
         x.post(5, 5);
@@ -520,7 +472,7 @@ public final class PromiseTests {
         Due.is("heads ahead of posts", x.hidden(2, 0, 0), 0);
 
         // less than 1: from PLACE 0 to a POINT at 20 the LINE at 1 is at 18
-        OverTheHeads y = hallOf(1);
+        OverTheHeads y = Halls.hallOf(1);
         y.point(20, 0, 5);
         y.post(17, 1);
         Due.is("1 left of the LINE", y.hidden(0, 0, 0), -1);
@@ -530,7 +482,7 @@ public final class PromiseTests {
         Due.is("1 right of the LINE", y.hidden(0, 0, 0), -1);
         y.moves(0, 3, 9);
         Due.is("1 beside again", y.hidden(0, 0, 0), -1);
-        OverTheHeads z = hallOf(1);
+        OverTheHeads z = Halls.hallOf(1);
         z.point(19, 0, 5);
         z.post(18, 1);
         Due.is("0.9 beside", z.hidden(0, 0, 0), 100);
@@ -543,7 +495,7 @@ public final class PromiseTests {
     }
 
     private static void sees() {
-        OverTheHeads x = hallOf(1, 1);
+        OverTheHeads x = Halls.hallOf(1, 1);
         Due.is("no points", x.sees(1, 0), 0);
         x.point(0, 0, 5);
         x.point(0, 60, 5);
@@ -556,7 +508,7 @@ public final class PromiseTests {
     }
 
     private static void worth() {
-        OverTheHeads x = hallOf(1, 1);
+        OverTheHeads x = Halls.hallOf(1, 1);
         Due.is("no points", x.worth(1, 0), 0);
         x.point(0, 0, 5);
         x.point(0, 60, 17);
@@ -568,7 +520,7 @@ public final class PromiseTests {
     }
 
     private static void price() {
-        OverTheHeads x = hallOf(1, 2);
+        OverTheHeads x = Halls.hallOf(1, 2);
         x.point(20, 60, 99);
         x.set(1, 0, 4);
         x.sit(1, 1, 2);
@@ -576,28 +528,28 @@ public final class PromiseTests {
         Due.is("second row", x.price(1, 0), 197);
         Due.is("no seat", x.price(1, 2), -5);
         Due.is("no row", x.price(2, 0), -5);
-        read(x, "like 0;price high*500+place*100+row*30+rise*4+sort;cost 0;");
+        Halls.read(x, "like 0;price high*500+place*100+row*30+rise*4+sort;cost 0;");
         x.force(1);
         Due.is("names", x.price(1, 1), 248);
-        read(x, "like value;price value*11;cost 0;");
+        Halls.read(x, "like value;price value*11;cost 0;");
         x.force(2);
         Due.is("bounded above", x.price(0, 0), 999);
-        read(x, "like value;price value-100;cost 0;");
+        Halls.read(x, "like value;price value-100;cost 0;");
         x.force(3);
         Due.is("bounded below", x.price(0, 0), 0);
-        read(x, "like value;price value*10+9;cost 0;");
+        Halls.read(x, "like value;price value*10+9;cost 0;");
         x.force(4);
         Due.is("at the bound", x.price(0, 0), 999);
         OverTheHeads b = new OverTheHeads();
         b.row(2, 1, 7);
         b.set(0, 0, 3);
-        read(b, "like 0;price rise;cost 0;");
+        Halls.read(b, "like 0;price rise;cost 0;");
         b.force(1);
         Due.is("rise is the FLOOR", b.price(0, 0), 10);
     }
 
     private static void all() {
-        OverTheHeads x = hallOf(1, 2);
+        OverTheHeads x = Halls.hallOf(1, 2);
         Due.is("no points: all see all", x.all(2), 3);
         Due.is("no points: all see none", x.all(3), 3);
         x.point(0, 0, 5);
@@ -617,7 +569,7 @@ public final class PromiseTests {
     }
 
     private static void cost() {
-        OverTheHeads x = hallOf(1, 1, 1);
+        OverTheHeads x = Halls.hallOf(1, 1, 1);
         Due.is("even", x.cost(), 0);
         x.set(0, 0, 5);
         // ROW 0: 5*3+5; ROW 1: -5*3+0, so 0; ROW 2: nothing
@@ -625,10 +577,10 @@ public final class PromiseTests {
         x.set(1, 0, 5);
         x.set(2, 0, 9);
         Due.is("two steps", x.cost(), 20 + 12 + 9);
-        read(x, "like 0;price 0;cost row*100+rise+high*10+value+place+sort;");
+        Halls.read(x, "like 0;price 0;cost row*100+rise+high*10+value+place+sort;");
         x.force(1);
         Due.is("names", x.cost(), 5 + 50 + 200 + 9 + 40);
-        read(x, "like 0;price 0;cost 9999;");
+        Halls.read(x, "like 0;price 0;cost 9999;");
         x.force(2);
         Due.is("bounded above", x.cost(), 1998);
         OverTheHeads b = new OverTheHeads();
@@ -636,13 +588,13 @@ public final class PromiseTests {
         Due.is("the RISE, not the FLOOR", b.cost(), 0);
         b.set(0, 0, 1);
         Due.is("of the RISE", b.cost(), 4);
-        read(b, "like 0;price 0;cost 0-1;");
+        Halls.read(b, "like 0;price 0;cost 0-1;");
         b.force(1);
         Due.is("bounded below", b.cost(), 0);
     }
 
     private static void lawful() {
-        OverTheHeads x = hallOf(1, 1, 1);
+        OverTheHeads x = Halls.hallOf(1, 1, 1);
         Due.is("even", x.lawful(0), NONE);
         x.set(0, 0, 3);
         x.set(1, 0, 8);
@@ -682,7 +634,7 @@ public final class PromiseTests {
 
     /** A step down that is more, while no step up is. */
     private static void onlyDown() {
-        OverTheHeads x = hallOf(1, 1, 1, 1);
+        OverTheHeads x = Halls.hallOf(1, 1, 1, 1);
         int[] rises = {4, 8, 12, 6};
         for (int r = 0; r < rises.length; r++) {
             x.set(r, 0, rises[r]);
@@ -694,35 +646,35 @@ public final class PromiseTests {
     }
 
     private static void judge() {
-        OverTheHeads x = hallOf(1, 1, 1);
+        OverTheHeads x = Halls.hallOf(1, 1, 1);
         x.point(0, 0, 5);
-        sheetOf(x, 0, 0, 0, 0);
+        Halls.sheetOf(x, 0, 0, 0, 0);
         Due.is("even", x.judge(0), 1);
         // LINE from 10+h at 20 to 0: at 10 (10+h)/2 > 14, h 19; from 10+h at 30: at 20 (10+h)*2/3 > 19+14, h 40
-        sheetOf(x, 0, 0, 19, 40);
+        Halls.sheetOf(x, 0, 0, 19, 40);
         Due.is("all see", x.judge(0), NONE);
-        sheetOf(x, 0, 0, 18, 40);
+        Halls.sheetOf(x, 0, 0, 18, 40);
         Due.is("too low", x.judge(0), 1);
-        sheetOf(x, 0, 0, 19, 39);
+        Halls.sheetOf(x, 0, 0, 19, 39);
         Due.is("too low behind", x.judge(0), 2);
         Due.is("nothing changed", x.set(1, 0, 0), 0);
         Due.is("sheet -1", x.judge(-1), BAD);
         Due.is("sheet 4", x.judge(4), BAD);
         Due.is("missing", x.judge(1), -11);
-        sheetOf(x, 1, 0, 0);
+        Halls.sheetOf(x, 1, 0, 0);
         Due.is("too short", x.judge(1), BAD);
-        sheetOf(x, 1, 0, 0, 0, 0);
+        Halls.sheetOf(x, 1, 0, 0, 0, 0);
         Due.is("too long", x.judge(1), BAD);
-        sheetOf(x, 1, 0, 0, -1);
+        Halls.sheetOf(x, 1, 0, 0, -1);
         Due.is("a number below", x.judge(1), BAD);
-        sheetOf(x, 1, 0, 0, 100);
+        Halls.sheetOf(x, 1, 0, 0, 100);
         Due.is("a number above", x.judge(1), BAD);
-        sheetOf(x, 1, -1, 0, 0);
+        Halls.sheetOf(x, 1, -1, 0, 0);
         Due.is("the first number", x.judge(1), BAD);
-        sheetOf(x, 1, 0, 99, 99);
+        Halls.sheetOf(x, 1, 0, 99, 99);
         Due.is("the greatest", x.judge(1), 2);
-        OverTheHeads y = hallOf(1);
-        sheetOf(y, 0, 99);
+        OverTheHeads y = Halls.hallOf(1);
+        Halls.sheetOf(y, 0, 99);
         Due.is("no points", y.judge(0), NONE);
         y.point(0, 0, 5);
         y.post(0, 5);
@@ -738,7 +690,7 @@ public final class PromiseTests {
     }
 
     private static void chance() {
-        OverTheHeads x = hallOf(1, 1, 2);
+        OverTheHeads x = Halls.hallOf(1, 1, 2);
         x.point(0, 20, 50);
         chanceIs(x, 0, 0, 0, 1, 1);
         // the LINE at 15: heads 14 and 9 are below it, 16 and 19 aren't
@@ -777,7 +729,7 @@ public final class PromiseTests {
 
     /** Ten heads, two in each of five ROWS, just 1 away: by each one of 36 isn't seen over. */
     private static void greatestChance() {
-        OverTheHeads x = hallOf(2, 2, 2, 2, 2, 1);
+        OverTheHeads x = Halls.hallOf(2, 2, 2, 2, 2, 1);
         x.set(5, 1, 1);
         for (int p = 0; p < 6; p++) {
             x.point(1, 0, 99);
@@ -809,7 +761,7 @@ public final class PromiseTests {
     }
 
     private static void mean() {
-        OverTheHeads x = hallOf(1, 1);
+        OverTheHeads x = Halls.hallOf(1, 1);
         meanIs(x, 1, 0, 0, 1);
         x.point(0, 20, 50);
         meanIs(x, 1, 0, 25, 1);
@@ -821,7 +773,7 @@ public final class PromiseTests {
         // 50 times 5 by 6, and 10
         meanIs(x, 1, 0, 155, 3);
         meanIs(x, 0, 0, 91, 1);
-        read(x, "like value+sort;price 0;cost 0;");
+        Halls.read(x, "like value+sort;price 0;cost 0;");
         x.force(1);
         x.sit(1, 0, 1);
         // the LINE from eyes at 12 at 16: 16 and 19 hide it; at 6: all; at 36: none: 51 by 5 by 6, and 11
@@ -837,7 +789,7 @@ public final class PromiseTests {
     }
 
     private static void tall() {
-        OverTheHeads x = hallOf(1, 1);
+        OverTheHeads x = Halls.hallOf(1, 1);
         x.point(0, 20, 50);
         x.sit(0, 0, 3);
         x.sort(2, 1, 40);
@@ -850,13 +802,13 @@ public final class PromiseTests {
         Due.is("tops as they were", x.told(0, 0, 6), 9);
         Due.is("tall(-1)", x.tall(-1), BAD);
         Due.is("tall(4)", x.tall(4), BAD);
-        read(x, "like sort+1;price 0;cost 0;");
+        Halls.read(x, "like sort+1;price 0;cost 0;");
         x.force(1);
         Due.is("their SORT by the law", x.tall(3), 8);
     }
 
     private static void needs() {
-        OverTheHeads x = hallOf(1, 1, 1);
+        OverTheHeads x = Halls.hallOf(1, 1, 1);
         Due.is("no points", x.needs(2), 0);
         x.point(0, 0, 5);
         Due.is("first", x.needs(0), 0);
@@ -873,7 +825,7 @@ public final class PromiseTests {
         x.post(0, 5);
         Due.is("a post for ever", x.needs(0), NONE);
         // just 99 is enough, 100 would be too much: (eye+99)/2 > head
-        OverTheHeads y = hallOf(1, 1);
+        OverTheHeads y = Halls.hallOf(1, 1);
         y.point(0, 0, 5);
         y.sort(1, 1, 40);
         y.sit(0, 0, 1);
@@ -883,14 +835,14 @@ public final class PromiseTests {
         y.sort(0, 0, 1);
         Due.is("behind 99", y.needs(1), NONE);
         // all in it
-        OverTheHeads z = hallOf(1, 2);
+        OverTheHeads z = Halls.hallOf(1, 2);
         z.point(0, 0, 5);
         z.sit(1, 1, 3);
         Due.is("the lesser one's", z.needs(1), 22);
     }
 
     private static void proof() {
-        OverTheHeads x = hallOf(1, 1, 1);
+        OverTheHeads x = Halls.hallOf(1, 1, 1);
         x.point(0, 0, 5);
         x.set(0, 0, 50);
         Due.is("first", x.proof(0), 0);
@@ -916,7 +868,7 @@ public final class PromiseTests {
     }
 
     private static void shifts() {
-        OverTheHeads x = hallOf(1, 1);
+        OverTheHeads x = Halls.hallOf(1, 1);
         Due.is("no points", x.shifts(0), 0);
         x.point(0, 0, 5);
         // head at 0, LINE at 0: hidden; head at 1 (SHIFT), LINE at 0: 1 away, hidden; sitter at 1: LINE at 0.5
@@ -933,7 +885,7 @@ public final class PromiseTests {
         Due.is("as they were", y.set(1, 1, 0), 1);
         Due.is("as they were ahead", y.set(0, 1, 0), 0);
         // a post just ahead of ROW 1 alone
-        OverTheHeads z = hallOf(1, 1);
+        OverTheHeads z = Halls.hallOf(1, 1);
         z.point(20, 60, 5);
         z.post(1, 19);
         // from 0 at 20 the LINE is at 1 at 19; from 1: at 1.95
@@ -946,7 +898,7 @@ public final class PromiseTests {
     }
 
     private static void coin() {
-        OverTheHeads x = hallOf(1, 1);
+        OverTheHeads x = Halls.hallOf(1, 1);
         x.point(0, 20, 50);
         x.sort(0, 1, 15);
         // even: the LINE at 15 is touched; ROW 1 up by 6: 18, over it; costs 6*3+6
@@ -967,19 +919,19 @@ public final class PromiseTests {
         Due.is("no rows", new OverTheHeads().coin(0, 0), 0);
         Due.is("no rows, worth", new OverTheHeads().coin(0, 1), 0);
         // the others as they are: ROW 4's step down to 0 or up costs
-        OverTheHeads y = hallOf(1, 1, 1, 1, 1);
-        read(y, "like 0;price 0;cost high<0;");
+        OverTheHeads y = Halls.hallOf(1, 1, 1, 1, 1);
+        Halls.read(y, "like 0;price 0;cost high<0;");
         y.force(1);
         y.set(4, 0, 6);
         y.set(3, 0, 50);
         Due.is("of like ones the first by rows", y.coin(0, 0), 0);
-        read(y, "like rise+1;price 0;cost rise<6 or (row=4)*(high<0);");
+        Halls.read(y, "like rise+1;price 0;cost rise<6 or (row=4)*(high<0);");
         y.force(2);
         y.point(20, 60, 9);
         // the greatest floors: 12 12 12 6, for ROW 4 (6) must not step down
         Due.is("digits", y.coin(0, 0), 2221);
         Due.is("digits, worth", y.coin(0, 1), 13 * 3 + 7 + 7);
-        read(y, "like rise+1;price 0;cost 1;");
+        Halls.read(y, "like rise+1;price 0;cost 1;");
         y.force(3);
         y.set(4, 0, 99);
         Due.is("one step for all", y.coin(0, 0), NONE);
@@ -989,32 +941,32 @@ public final class PromiseTests {
     }
 
     private static void stage() {
-        OverTheHeads x = hallOf(1, 1);
+        OverTheHeads x = Halls.hallOf(1, 1);
         Due.is("no points", x.stage(), 0);
         x.point(0, 13, 50);
         // LINE at (10+13+h)/2 > 14: h 6
         Due.is("by 6", x.stage(), 6);
         Due.is("nothing changed", x.taken(0, 6), 13);
         Due.is("ALL WORTH as it was", x.all(1), 50);
-        OverTheHeads y = hallOf(1, 1);
+        OverTheHeads y = Halls.hallOf(1, 1);
         y.point(0, 8, 50);
         Due.is("not by 10", y.stage(), 0);
-        OverTheHeads z = hallOf(1, 1);
+        OverTheHeads z = Halls.hallOf(1, 1);
         z.point(0, 9, 50);
         Due.is("by 10", z.stage(), 10);
-        OverTheHeads h = hallOf(1);
+        OverTheHeads h = Halls.hallOf(1);
         h.point(0, 60, 50);
-        read(h, "like (high=63)+(high=65);price 0;cost 0;");
+        Halls.read(h, "like (high=63)+(high=65);price 0;cost 0;");
         h.force(1);
         Due.is("above 60, by the law", h.stage(), 3);
-        read(h, "like high-60;price 0;cost 0;");
+        Halls.read(h, "like high-60;price 0;cost 0;");
         h.force(2);
         Due.is("the highest", h.stage(), 10);
         Due.is("as high as it was", h.all(1), 0);
     }
 
     private static void swap() {
-        OverTheHeads x = hallOf(1, 1);
+        OverTheHeads x = Halls.hallOf(1, 1);
         x.point(0, 20, 50);
         x.sit(0, 0, 2);
         // head 19, LINE from 10 at 15: hidden; changed: head 14, LINE from 14 at 17: seen
@@ -1033,7 +985,7 @@ public final class PromiseTests {
 
     /** ROW 0 at PLACES 0 2 4 6; straight behind the last seat one to whom just a tall one there hides the POINT. */
     private static OverTheHeads four() {
-        OverTheHeads x = hallOf(4);
+        OverTheHeads x = Halls.hallOf(4);
         x.row(3, 1, 5);
         x.point(6, 20, 50);
         x.sort(2, 1, 40);
@@ -1068,14 +1020,14 @@ public final class PromiseTests {
         Due.is("what 2", x.people(0, 2), -7);
         // the greatest, not the first
         OverTheHeads y = four();
-        read(y, "like value*0+1+(place=0)*(sort=2)*3+(place=2)*(sort=2)*7;price 0;cost 0;");
+        Halls.read(y, "like value*0+1+(place=0)*(sort=2)*3+(place=2)*(sort=2)*7;price 0;cost 0;");
         y.force(1);
         Due.is("the greatest", y.people(0, 0), 13);
         Due.is("by its gain", y.people(0, 1), 8);
         // PLACES 0 to 14: the last two seats alone
-        OverTheHeads z = hallOf(8);
+        OverTheHeads z = Halls.hallOf(8);
         z.point(0, 60, 1);
-        read(z, "like (place=12)*sort;price 0;cost 0;");
+        Halls.read(z, "like (place=12)*sort;price 0;cost 0;");
         z.force(1);
         z.sit(0, 7, 3);
         Due.is("the last two", z.people(0, 0), 67);
@@ -1098,9 +1050,9 @@ public final class PromiseTests {
         Due.is("most 6", x.settle(0, 6), -7);
         Due.is("no row ahead of most", x.settle(-1, 6), -5);
         // worth by place times sort: the greatest change first
-        OverTheHeads y = hallOf(4);
+        OverTheHeads y = Halls.hallOf(4);
         y.point(0, 60, 1);
-        read(y, "like place*sort;price 0;cost 0;");
+        Halls.read(y, "like place*sort;price 0;cost 0;");
         y.force(1);
         y.sit(0, 0, 3);
         y.sit(0, 1, 2);
@@ -1114,7 +1066,7 @@ public final class PromiseTests {
     }
 
     private static void hat() {
-        OverTheHeads x = hallOf(1, 1);
+        OverTheHeads x = Halls.hallOf(1, 1);
         x.point(0, 20, 50);
         Due.is("no hat", x.hat(0, 0, 0), 0);
         Due.is("up to the LINE", x.hat(0, 0, 1), 50);
@@ -1136,7 +1088,7 @@ public final class PromiseTests {
     }
 
     private static void least() {
-        OverTheHeads x = hallOf(1);
+        OverTheHeads x = Halls.hallOf(1);
         x.point(0, 0, 50);
         Due.is("no post", x.least(0), -5);
         x.post(5, 3);
@@ -1146,7 +1098,7 @@ public final class PromiseTests {
         Due.is("post 1", x.least(1), -5);
         Due.is("post -1", x.least(-1), -5);
         // POINTS of other VALUES, from one seat: at 1 the LINES are near their POINTS
-        OverTheHeads y = hallOf(1);
+        OverTheHeads y = Halls.hallOf(1);
         for (int p = 0; p < 5; p++) {
             y.point(4 * p, 0, 50);
         }
@@ -1157,7 +1109,7 @@ public final class PromiseTests {
         y.moves(0, 0, 9);
         // LINES at 0, 0.4, 0.8, 1.2, 1.6, 2: at 3 none
         Due.is("beyond all", y.least(0), 3);
-        OverTheHeads z = hallOf(1);
+        OverTheHeads z = Halls.hallOf(1);
         for (int p = 0; p < 6; p++) {
             z.point(4 * p, 0, 50);
         }
@@ -1166,7 +1118,7 @@ public final class PromiseTests {
         // LINES at 0, 3.6, 7.2, 10.8, 14.4, 18: 19 and 20 are free as well, but 1 is less
         Due.is("the least of many", z.least(0), 1);
         // LINES at 9: from ROW 0 to 0 and 20 less than 1 beside all of 0 to 15, from ROW 1 to 20 at 14.7 to 18.94
-        OverTheHeads last = hallOf(8);
+        OverTheHeads last = Halls.hallOf(8);
         last.row(3, 5, 9);
         last.point(0, 60, 10);
         last.point(20, 60, 10);
@@ -1175,30 +1127,30 @@ public final class PromiseTests {
     }
 
     private static void sell() {
-        OverTheHeads x = hallOf(3);
+        OverTheHeads x = Halls.hallOf(3);
         x.point(20, 60, 9);
         Due.is("all alike", x.sell(0), 18);
         Due.is("all alike, in all", x.sell(1), 54);
-        read(x, "like 0;price 10+place*5;cost 0;");
+        Halls.read(x, "like 0;price 10+place*5;cost 0;");
         x.force(1);
         // 10, 20, 30: 30, 40, 30
         Due.is("the middle one", x.sell(0), 20);
         Due.is("the middle one, in all", x.sell(1), 40);
-        read(x, "like 0;price 20+(place=4)*40;cost 0;");
+        Halls.read(x, "like 0;price 20+(place=4)*40;cost 0;");
         x.force(2);
         // 20, 20, 60: 60, 60
         Due.is("the least of like ones", x.sell(0), 20);
         Due.is("the least, in all", x.sell(1), 60);
-        read(x, "like 0;price 60-place*25;cost 0;");
+        Halls.read(x, "like 0;price 60-place*25;cost 0;");
         x.force(3);
         // 60, 10, 0: 60, 20
         Due.is("the first one's", x.sell(0), 60);
         Due.is("the first one's, in all", x.sell(1), 60);
-        read(x, "like 0;price 0;cost 0;");
+        Halls.read(x, "like 0;price 0;cost 0;");
         x.force(4);
         Due.is("nothing comes in", x.sell(0), 0);
         Due.is("nothing in all", x.sell(1), 0);
-        read(x, "like 0;price 5000;cost 0;");
+        Halls.read(x, "like 0;price 5000;cost 0;");
         x.force(5);
         Due.is("the highest", x.sell(0), 999);
         Due.is("the highest, in all", x.sell(1), 2997);
@@ -1208,7 +1160,7 @@ public final class PromiseTests {
     }
 
     private static void flat() {
-        OverTheHeads x = hallOf(1, 1, 1, 1, 1, 1);
+        OverTheHeads x = Halls.hallOf(1, 1, 1, 1, 1, 1);
         Due.is("even", x.flat(), 0);
         int[] rises = {3, 3, 0, 5, 5, 6};
         for (int r = 0; r < 6; r++) {
@@ -1228,15 +1180,15 @@ public final class PromiseTests {
     }
 
     private static void thursday() {
-        OverTheHeads x = hallOf(1, 1, 1);
+        OverTheHeads x = Halls.hallOf(1, 1, 1);
         x.set(1, 0, 7);
-        sheetOf(x, 2, 0, 7, 0);
+        Halls.sheetOf(x, 2, 0, 7, 0);
         Due.is("as told", x.thursday(2), 0);
-        sheetOf(x, 2, 1, 7, -100000);
+        Halls.sheetOf(x, 2, 1, 7, -100000);
         Due.is("two others", x.thursday(2), 2);
-        sheetOf(x, 2, 0, 0);
+        Halls.sheetOf(x, 2, 0, 0);
         Due.is("too short", x.thursday(2), BAD);
-        sheetOf(x, 2, 0, 0, 0, 0);
+        Halls.sheetOf(x, 2, 0, 0, 0, 0);
         Due.is("too long", x.thursday(2), BAD);
         Due.is("sheet -1", x.thursday(-1), BAD);
         Due.is("sheet 4", x.thursday(4), BAD);
@@ -1244,9 +1196,9 @@ public final class PromiseTests {
     }
 
     private static void imageAndBack() {
-        OverTheHeads x = hallOf(2, 1);
+        OverTheHeads x = Halls.hallOf(2, 1);
         Due.is("none", x.back(), STATE);
-        read(x, "like 1;price 1;cost 1;");
+        Halls.read(x, "like 1;price 1;cost 1;");
         x.post(3, 4);
         x.point(0, 0, 7);
         x.set(1, 0, 9);
@@ -1323,14 +1275,14 @@ public final class PromiseTests {
         Due.is("is missing", x.cell(2, 0, 0), -11);
         Due.is("missing, n -9", x.sheet(2, -1, -9), 1);
         // all 0, also where numbers stood
-        OverTheHeads y = hallOf(1, 1);
-        sheetOf(y, 0, 5, 5);
+        OverTheHeads y = Halls.hallOf(1, 1);
+        Halls.sheetOf(y, 0, 5, 5);
         y.sheet(0, 2, 2);
         Due.is("all 0", y.thursday(0), 0);
     }
 
     private static void cell() {
-        OverTheHeads x = hallOf(1);
+        OverTheHeads x = Halls.hallOf(1);
         Due.is("missing", x.cell(0, 0, 0), -11);
         Due.is("sheet -1", x.cell(-1, 0, 0), BAD);
         Due.is("sheet 4", x.cell(4, 0, 0), BAD);
@@ -1350,21 +1302,21 @@ public final class PromiseTests {
     }
 
     private static void copy() {
-        OverTheHeads x = hallOf(1, 1, 1, 1);
+        OverTheHeads x = Halls.hallOf(1, 1, 1, 1);
         for (int r = 0; r < 4; r++) {
             x.set(r, 0, r + 1);
         }
-        sheetOf(x, 0, 2, 3, 4, 9, 9);
-        sheetOf(x, 1, 1, 0, 0, 0);
+        Halls.sheetOf(x, 0, 2, 3, 4, 9, 9);
+        Halls.sheetOf(x, 1, 1, 0, 0, 0);
         Due.is("copied", x.copy(0, 0, 1, 1, 3), 3);
         Due.is("there", x.thursday(1), 0);
         Due.is("none", x.copy(0, 5, 1, 4, 0), 0);
         // its own, as they were: 1 2 3 4 by 2 3 4 to the front, then again from there
-        sheetOf(x, 2, 1, 1, 2, 3);
+        Halls.sheetOf(x, 2, 1, 1, 2, 3);
         Due.is("own, backwards", x.copy(2, 0, 2, 0, 4), 4);
-        sheetOf(x, 2, 1, 2, 3, 0);
+        Halls.sheetOf(x, 2, 1, 2, 3, 0);
         Due.is("own, on", x.copy(2, 0, 2, 1, 3), 3);
-        sheetOf(x, 3, 1, 1, 2, 3);
+        Halls.sheetOf(x, 3, 1, 1, 2, 3);
         x.set(1, 0, 1);
         x.set(2, 0, 2);
         x.set(3, 0, 3);
@@ -1394,8 +1346,8 @@ public final class PromiseTests {
     }
 
     private static void sitters() {
-        OverTheHeads x = hallOf(3, 2);
-        sheetOf(x, 0, 3, 4, 2, 1);
+        OverTheHeads x = Halls.hallOf(3, 2);
+        Halls.sheetOf(x, 0, 3, 4, 2, 1);
         Due.is("two of three", x.sitters(0, 2, 0, 3), 2);
         Due.is("first", x.told(0, 0, 4), 3);
         Due.is("left out", x.told(0, 1, 4), 0);
@@ -1412,11 +1364,11 @@ public final class PromiseTests {
         Due.is("bad ahead of missing", x.sitters(1, 2, 0, 9), BAD);
         Due.is("missing", x.sitters(1, 2, 0, 1), -11);
         Due.is("another sort", x.sitters(0, 1, 0, 1), -13);
-        sheetOf(x, 0, 1, 1);
+        Halls.sheetOf(x, 0, 1, 1);
         Due.is("too short", x.sitters(0, 2, 0, 3), -12);
         Due.is("what stood ahead", x.told(0, 1, 4), 1);
         Due.is("nothing behind", x.told(0, 2, 4), 2);
-        sheetOf(x, 3, 2, 2);
+        Halls.sheetOf(x, 3, 2, 2);
         Due.is("the last sheet", x.sitters(3, 2, 1, 2), 2);
         x.sheet(2, 0, 1);
         x.cell(2, 0, 259);
@@ -1449,6 +1401,6 @@ public final class PromiseTests {
         Due.is("kind ahead of place", x.taken(12, 7), BAD);
         Due.is("place -1", x.taken(-1, 0), -12);
         Due.is("place 12", x.taken(12, 0), -12);
-        Due.is("no ROW", hallOf(1).taken(7, 0), -11);
+        Due.is("no ROW", Halls.hallOf(1).taken(7, 0), -11);
     }
 }
