@@ -625,6 +625,11 @@ public final class PromiseBoundsTests {
             }
             Due.is("its RISE stays", x.set(r, 0, 7), 7);
         }
+        // numbers behind its end don't matter, whatever stood there
+        OverTheHeads y = Halls.hallOf(1, 1);
+        Halls.sheetOf(y, 0, 0, 0, 100, -1);
+        y.sheet(0, 2, 2);
+        Due.is("100 behind its end", y.judge(0), NONE);
         // ahead of an answer, too: in ROW 0 not all SEE all
         OverTheHeads x = Halls.hallOf(1, 1);
         x.point(0, 0, 1);
@@ -636,6 +641,18 @@ public final class PromiseBoundsTests {
     }
 
     private static void judgeFirst() {
+        Due.about("promise 21, judge: with these RISES, of ROW 0, too");
+        OverTheHeads front = Halls.hallOf(1, 1);
+        front.point(0, 0, 1);
+        front.set(0, 0, 99);
+        Halls.sheetOf(front, 0, 0, 19);
+        Due.is("19 behind 0", front.judge(0), NONE);
+        Halls.sheetOf(front, 0, 0, 18);
+        Due.is("18 behind 0", front.judge(0), 1);
+        Halls.sheetOf(front, 0, 1, 19);
+        Due.is("19 behind 1", front.judge(0), 1);
+        Halls.sheetOf(front, 0, 1, 21);
+        Due.is("21 behind 1", front.judge(0), NONE);
         Due.about("promise 21, judge: the first ROW in which somebody doesn't SEE all POINTS");
         OverTheHeads x = new OverTheHeads();
         for (int r = 0; r < 6; r++) {
@@ -720,6 +737,25 @@ public final class PromiseBoundsTests {
     private static void tall() {
         Due.about("promise 24, tall: BAD: a SORT is 0 .. 3");
         Bounds.number("tall(k)", 0, 3, BAD, (x, n) -> x.tall(n));
+        Due.about("promise 24, tall: ALL WORTH, were all sitters of one SORT");
+        // the LINE half the way from EYE to a POINT: 10 12 14 7 are over 14 16 19 9 from 19, 21, 25, 12 on
+        int[] least = {19, 21, 25, 12};
+        for (int k = 0; k < 4; k++) {
+            for (int other = 0; other < 4; other++) {
+                OverTheHeads x = Halls.hallOf(1, 1);
+                x.sit(0, 0, other);
+                x.sit(1, 0, other);
+                x.point(0, least[k] - 1, 9);
+                Due.is("all of " + k + ", just hidden", x.tall(k), 9);
+                x.point(0, least[k], 5);
+                Due.is("all of " + k + ", just seen", x.tall(k), 19);
+            }
+        }
+        OverTheHeads y = balconies(6, 8);
+        Halls.rule(y, "like sort+1;price 0;cost 0;");
+        for (int k = 0; k < 4; k++) {
+            Due.is("all 48 of " + k, y.tall(k), 48 * (k + 1));
+        }
     }
 
     // ---- floors, shifts, the stage
@@ -943,6 +979,10 @@ public final class PromiseBoundsTests {
         Due.is("from the last seat of all", x.swap(5, 7, 0, 0), 42);
         Due.is("with himself", x.swap(5, 7, 5, 7), 0);
         Due.is("with one of his SORT", x.swap(5, 7, 5, 6), 0);
+        x.sit(3, 7, 1);
+        Due.is("what it is is taken off", x.swap(0, 0, 5, 7), 42);
+        x.sit(5, 7, 3);
+        Due.is("greater before", x.swap(5, 7, 5, 0), -42);
     }
 
     private static void people() {
@@ -1054,6 +1094,15 @@ public final class PromiseBoundsTests {
         Due.is("40", x.hat(0, 0, 40), 50);
         x.set(1, 0, 69);
         Due.is("40 for 40 and a half", x.hat(0, 0, 40), 0);
+        // of two seats just one is ahead of somebody
+        OverTheHeads z = new OverTheHeads();
+        z.row(0, 8, 0);
+        z.row(3, 1, 9);
+        z.point(10, 20, 50);
+        // the LINE from 10 to 10: seat 5 is at 10
+        for (int c = 0; c < 8; c++) {
+            Due.is("seat " + c, z.hat(0, c, 40), c == 5 ? 50 : 0);
+        }
         // it is his head alone that is higher
         OverTheHeads y = Halls.hallOf(2, 2);
         y.point(0, 20, 50);
@@ -1099,13 +1148,15 @@ public final class PromiseBoundsTests {
         Due.is("just beside all", x.least(0), 8);
         x.moves(0, 0, 10);
         Due.is("not less FAR", x.least(0), 0);
-        // LINES to 0 and 20 at 9 from a ROW at 0 .. 14, and from one 17 far: all PLACES but 20 cost more
-        OverTheHeads last = Halls.hallOf(8);
-        last.row(3, 5, 9);
-        last.point(0, 60, 10);
-        last.point(20, 60, 10);
-        last.post(0, 9);
-        Due.is("20", last.least(0), 20);
+        // 2 far the LINES are so many that no PLACE hides nothing; the last two end at 19.2 and 19.4
+        OverTheHeads last = Halls.hallOf(8, 8);
+        for (int p = 0; p < 6; p++) {
+            last.point(4 * p, 60, 10);
+        }
+        last.post(0, 2);
+        Due.is("20, for there is no 21", last.least(0), 20);
+        last.moves(0, 20, 2);
+        Due.is("what it leaves", last.all(1), 940);
         last.moves(0, 19, 1);
         Due.is("as FAR as it is", last.moves(0, 19, 1), 1901);
         last.least(0);
@@ -1147,6 +1198,7 @@ public final class PromiseBoundsTests {
         sells("no less pays", 2, "10-(place=0)", 9, 18);
         sells("one pays 1 more than two by two", 2, "(place=0)*21+(place=2)*10", 21, 21);
         sells("one pays as much as two by two", 2, "(place=0)*20+(place=2)*10", 10, 20);
+        sells("one pays as much as two by two, behind", 2, "(place=2)*20+(place=0)*10", 10, 20);
         sells("one pays 1 less than two by two", 2, "(place=0)*19+(place=2)*10", 10, 20);
         sells("the last seat's", 8, "place", 8, 32);
         OverTheHeads x = balconies(6, 8);

@@ -32,8 +32,12 @@ public final class TermsTests {
         wrapping();
         oneOrNothing();
         likeOfAPoint();
+        textAtFirst();
+        namesOfALike();
         priceOfASeat();
+        namesOfAPrice();
         costOfARow();
+        namesOfACost();
         chanceOfHeadsNear();
         chanceBehindPosts();
         chanceOfHeadsAsHigh();
@@ -418,7 +422,27 @@ public final class TermsTests {
             x.feed(b, 1);
             int first = Halls.read(x, "like 1;price 1;cost 1;");
             Due.is("byte " + b + " at first", first, b == 32 || b == 10 ? 1 : -100);
+            int behind = faultBehindWord(b);
+            Due.is("byte " + b + " behind a WORD", withByteBehindWord(b), behind < 0 ? 1 : -100 - behind);
         }
+    }
+
+    private static int withByteBehindWord(int b) {
+        OverTheHeads x = new OverTheHeads();
+        Halls.lay(x, "like value");
+        x.feed(b, 1);
+        return Halls.read(x, " 7;price 1;cost 1;");
+    }
+
+    /** Where a text has its FAULT, if behind its WORD, at 5 .. 9, stands that byte, and a NUMBER at 12; -1: nowhere. */
+    private static int faultBehindWord(int b) {
+        if (b >= 'a' && b <= 'z') {
+            return 5;
+        }
+        if (b == 32 || b == 10 || b == ';') {
+            return 12;
+        }
+        return b < 128 && "+-*<=".indexOf((char) b) >= 0 ? -1 : 10;
     }
 
     private static void wordsAsLongAsCanBe() {
@@ -440,6 +464,14 @@ public final class TermsTests {
         }
         Halls.fault("like 1;like 1;cost 1;", 7);
         Halls.fault("like 1;price 1;price 1;", 15);
+        for (String word : words) {
+            for (int i = 0; i < word.length(); i++) {
+                String other = word.substring(0, i) + "q" + word.substring(i + 1);
+                Halls.fault("like 1+ " + other + ";price 1;cost 1;", 8);
+                Halls.fault("like 1; " + other + " 1;cost 1;", 8);
+                Halls.fault("like 1 " + other + " 1;price 1;cost 1;", 7);
+            }
+        }
     }
 
     private static void numbersOfFourDigits() {
@@ -467,6 +499,19 @@ public final class TermsTests {
             Halls.fault(text.toString(), text.length());
             text.append('\n');
         }
+        // what stood there ahead, behind its end, doesn't matter
+        for (String early : new String[] {"like 1", "like valu", "like value", "like 1;price 999", "like 1;price 1;cost 1"}) {
+            OverTheHeads x = new OverTheHeads();
+            Halls.read(x, "like value+11111111111111111111111111111111");
+            boolean word = early.endsWith("valu");
+            Due.is(early + " behind another", Halls.read(x, early), word ? -105 : -100 - early.length());
+            Halls.read(x, early + early + "e;".repeat(20));
+            Due.is(early + " behind its like", Halls.read(x, early), word ? -105 : -100 - early.length());
+        }
+        String full = "like 1;price 1;cost " + "1-".repeat(69) + "12";
+        Halls.fault(full, 160);
+        Halls.fault(full.substring(0, 156) + "-row", 160);
+        Due.is("160 bytes", Halls.read(new OverTheHeads(), full.substring(0, 159) + ";"), 1);
         Due.is("at its end", Halls.read(new OverTheHeads(), text + ";"), 1);
         Due.is("blanks behind its end", Halls.read(new OverTheHeads(), text + "; \n "), 1);
     }
@@ -589,6 +634,31 @@ public final class TermsTests {
         Due.is("in a MEAN, too", x.mean(0, 0, 0), 99);
     }
 
+    private static void textAtFirst() {
+        Due.about("Terms: TEXT 0, at first, and THE LAW: like value ; price value * 2 - row ; cost high * 3 + rise ;");
+        OverTheHeads x = new OverTheHeads();
+        for (int r = 0; r < 6; r++) {
+            x.row(4, 1, 20);
+        }
+        int[] values = {0, 3, 99, 99, 99, 99}, worths = {0, 3, 102, 201, 300, 399};
+        int[] first = {0, 6, 204, 402, 600, 798}, last = {0, 1, 199, 397, 595, 793};
+        for (int p = 0; p < values.length; p++) {
+            x.point(9, 60, values[p]);
+            Due.is("WORTH", x.worth(5, 0), worths[p]);
+            Due.is("price in ROW 0", x.price(0, 0), first[p]);
+            Due.is("price in ROW 5", x.price(5, 0), last[p]);
+        }
+        x.set(0, 0, 99);
+        // up by 99, down by 99 to 0
+        Due.is("COST", x.cost(), 3 * 99 + 99);
+        x.set(1, 0, 74);
+        // down by 25, to 74: less than nothing; then down to 0
+        Due.is("COST of a step down to 0 and 1 less", x.cost(), 396);
+        x.set(1, 0, 75);
+        // down by 24, to 75: 3
+        Due.is("COST of a step down that is above 0", x.cost(), 396 + 3);
+    }
+
     private static void priceOfASeat() {
         Due.about("Terms: price (0 .. 999, else the bound) of a seat");
         int[][] due = {{-1, 0}, {0, 0}, {1, 1}, {998, 998}, {999, 999}, {1000, 999}};
@@ -606,8 +676,79 @@ public final class TermsTests {
         Due.is("by all its WORTH", x.price(0, 0), 994);
         Halls.rule(x, "like value;price value+405;cost 0;");
         Due.is("by all its WORTH, at the bound", x.price(0, 0), 999);
-        Halls.rule(x, "like value;price 1000*high+value-594;cost 0;");
-        Due.is("high 0", x.price(0, 0), 0);
+    }
+
+    /** Names of a price, of a cost, one by one, ahead of which a question has set all others. */
+    private static void namesOfAPrice() {
+        Due.about("Terms: price of a seat: value: its WORTH; high 0; the others likewise");
+        String[] names = {"value", "high", "row", "place", "rise", "sort"};
+        int[] due = {594, 0, 5, 15, 159, 3};
+        for (int i = 0; i < names.length; i++) {
+            OverTheHeads x = fullBalconies();
+            Halls.rule(x, "like value;price " + names[i] + "+7;cost 0;");
+            Due.is(names[i] + ", the most", x.price(5, 7), due[i] + 7);
+            Due.is(names[i] + ", behind another", x.price(0, 0) + x.price(5, 7) - x.price(0, 0), due[i] + 7);
+        }
+        int[] least = {0, 0, 0, 0, 0, 0};
+        for (int i = 0; i < names.length; i++) {
+            OverTheHeads x = Halls.hallOf(1);
+            Halls.rule(x, "like value;price " + names[i] + "+7;cost 0;");
+            Due.is(names[i] + ", the least", x.price(0, 0), least[i] + 7);
+        }
+    }
+
+    private static void namesOfALike() {
+        Due.about("Terms: like: value, high: the POINT's; row; place: his PLACE; rise: his FLOOR; sort: his SORT");
+        String[] names = {"value", "high", "row", "place", "rise-100", "sort"};
+        int[] due = {99, 60, 5, 15, 59, 3};
+        for (int i = 0; i < names.length; i++) {
+            OverTheHeads x = fullBalconies();
+            Halls.rule(x, "like " + names[i] + ";price 0;cost 0;");
+            Due.is(names[i] + ", the most", x.worth(5, 7), 6 * due[i]);
+            OverTheHeads y = Halls.hallOf(1);
+            y.point(0, 0, 0);
+            Halls.rule(y, "like " + (i == 4 ? "rise" : names[i]) + "+7;price 0;cost 0;");
+            Due.is(names[i] + ", the least", y.worth(0, 0), 7);
+        }
+    }
+
+    private static void namesOfACost() {
+        Due.about("Terms: cost of a ROW: value 0; high: its RISE less that one's; row; place 0; rise: its RISE; sort 0");
+        String[] names = {"value", "high", "row", "place", "rise", "sort"};
+        int[] due = {0, 89, 5, 0, 99, 0};
+        for (int i = 0; i < names.length; i++) {
+            OverTheHeads x = fullBalconies();
+            Halls.rises(x, 10, 10, 10, 10, 10, 99);
+            Halls.rule(x, "like value;price value;cost (row=5)*(" + names[i] + "+7);");
+            Due.that("a question ahead", x.price(5, 7) > 0);
+            Due.is(names[i] + " of the last ROW", x.cost(), due[i] + 7);
+        }
+        int[] first = {0, 99, 0, 0, 99, 0}, down = {0, -99, 1, 0, 0, 0};
+        for (int i = 0; i < names.length; i++) {
+            OverTheHeads x = fullBalconies();
+            Halls.rises(x, 99, 0, 0, 0, 0, 0);
+            Halls.rule(x, "like value;price value;cost (row=0)*(" + names[i] + "+7);");
+            Due.that("a question ahead", x.price(5, 7) > 0);
+            Due.is(names[i] + " of the first ROW", x.cost(), first[i] + 7);
+            Halls.rule(x, "like value;price value;cost (row=1)*(" + names[i] + "+200);");
+            Due.that("a question ahead", x.price(5, 7) > 0);
+            Due.is(names[i] + " of a step down", x.cost(), down[i] + 200);
+        }
+    }
+
+    /** Six BALCONIES with MORE 20, SHIFT 1, 8 seats, in which all are of SORT 3 and SEE six POINTS; RISES 99. */
+    private static OverTheHeads fullBalconies() {
+        OverTheHeads x = new OverTheHeads();
+        for (int r = 0; r < 6; r++) {
+            x.row(4, 8, 20);
+            x.set(r, 0, 99);
+            x.set(r, 1, 1);
+            x.point(20, 60, 99);
+            for (int c = 0; c < 8; c++) {
+                x.sit(r, c, 3);
+            }
+        }
+        return x;
     }
 
     private static void costOfARow() {
