@@ -8,8 +8,10 @@ import java.nio.file.Files;
 import java.nio.file.Path;
 import java.util.ArrayList;
 import java.util.List;
+import java.util.Map;
 import java.util.Random;
 import java.util.Set;
+import java.util.TreeMap;
 import java.util.TreeSet;
 import java.util.regex.Matcher;
 import java.util.regex.Pattern;
@@ -39,6 +41,7 @@ public final class LanguageTests {
         String source = Files.readString(SOURCE);
         words(source);
         lengths(source);
+        depths(source);
         for (int run = 0; run < 300; run++) {
             nothingThrows(new Random(run));
         }
@@ -135,6 +138,51 @@ public final class LanguageTests {
                 start = -1;
             }
         }
+    }
+
+    /** Calls that are no recursion go eight deep at most; by names alone, so of like names all are meant. */
+    private static void depths(String source) {
+        Map<String, Set<String>> calls = new TreeMap<>();
+        String[] lines = source.split("\n");
+        Pattern header = Pattern.compile("( {4,8})[\\w\\[\\]<> ]*?(\\w+)\\([^;=]*\\) \\{");
+        for (int i = 0; i < lines.length; i++) {
+            Matcher begins = header.matcher(lines[i]);
+            if (begins.matches() && !Set.of("if", "for", "while", "switch").contains(begins.group(2))) {
+                Set<String> called = calls.computeIfAbsent(begins.group(2), name -> new TreeSet<>());
+                for (i++; !lines[i].equals(begins.group(1) + "}"); i++) {
+                    Matcher call = Pattern.compile("(\\w+)\\(").matcher(lines[i].replaceAll("//.*", ""));
+                    while (call.find()) {
+                        called.add(call.group(1));
+                    }
+                }
+            }
+        }
+        Due.that("methods are found: " + calls.size(), calls.size() > 100 && calls.get("people").contains("bestSwap"));
+        for (String method : FACE) {
+            String name = method.replaceAll("^\\w+ |\\(.*", "");
+            int deep = depth(name, calls, new ArrayList<>());
+            Due.that(name + " goes eight deep at most: " + deep, deep <= 8);
+        }
+    }
+
+    /** How deep calls go from a method on; what is open already (a recursion) counts no more. */
+    private static int depth(String name, Map<String, Set<String>> calls, List<String> open) {
+        if (!calls.containsKey(name) || open.contains(name)) {
+            return 0;
+        }
+        open.add(name);
+        int deepest = 0;
+        for (String called : calls.get(name)) {
+            // the Reader's methods from readOr to readOne call one another: a recursion
+            int own = called.equals(name) || isInRecursion(name) && isInRecursion(called) ? -1 : 0;
+            deepest = Math.max(deepest, own + depth(called, calls, open));
+        }
+        open.remove(name);
+        return 1 + deepest;
+    }
+
+    private static boolean isInRecursion(String name) {
+        return Set.of("readOr", "readAnd", "readNot", "readComparison", "readSum", "readTerm", "readOne").contains(name);
     }
 
     /** Any numbers in any state: an answer, always. */

@@ -24,6 +24,7 @@ public final class TermsTests {
         hiderOfPosts();
         bytesThatBeginTokens();
         wordsAsLongAsCanBe();
+        keysInTheirPlaces();
         numbersOfFourDigits();
         textsThatEndTooEarly();
         textsBehindTheirEnd();
@@ -472,6 +473,30 @@ public final class TermsTests {
                 Halls.fault("like 1 " + other + " 1;price 1;cost 1;", 7);
             }
         }
+    }
+
+    private static void keysInTheirPlaces() {
+        Due.about("Terms: TEXT: like E ; price E ; cost E ;");
+        String[] others = {"like", "price", "cost", "or", "and", "not", "value", "sort", "lik", "pricey", "costs", "zzz", "costprice",
+            "1", "9999", "00000", "12345", "(", ")", ";", "+", "-", "*", "<", "=", "#", "~", "A", "\t", "" + (char) 0, "" + (char) 255};
+        for (String other : others) {
+            if (!other.equals("like")) {
+                Halls.fault(other + " 1;price 1;cost 1;", 0);
+            }
+            if (!other.equals("price")) {
+                Halls.fault("like 1;" + other + " 1;cost 1;", 7);
+            }
+            if (!other.equals("cost")) {
+                Halls.fault("like 1;price 1;" + other + " 1;", 15);
+            }
+        }
+        Halls.fault("1;price 1;cost 1;", 0);
+        Halls.fault("like;price 1;cost 1;", 4);
+        Halls.fault("like 1;price;cost 1;", 12);
+        Halls.fault("like 1;price 1;cost;", 19);
+        Halls.fault("like 1;price 1;;cost 1;", 15);
+        Halls.fault("like 1;;price 1;cost 1;", 7);
+        Halls.fault(";like 1;price 1;cost 1;", 0);
     }
 
     private static void numbersOfFourDigits() {
