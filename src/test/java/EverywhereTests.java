@@ -48,6 +48,26 @@ public final class EverywhereTests {
         }
     }
 
+    /** POINTS of a VALUE that no RISE, PLACE or HIGH in these halls comes to. */
+    private static void addWorthless(OverTheHeads x, int points) {
+        for (int p = 0; p < points; p++) {
+            x.point(0, 60, 99);
+        }
+    }
+
+    /** POINTS, POSTS and TEXTS, more or fewer, that are nothing to what is asked. */
+    private static void crowd(OverTheHeads x, int n) {
+        for (int p = 0; p < n % (POINTS + 1); p++) {
+            x.point(3 * p, 10 * p, p);
+        }
+        for (int k = 0; k < n % (POSTS + 1); k++) {
+            x.post(k, 20 * k + 1);
+        }
+        for (int t = 0; t < n % 6; t++) {
+            Halls.rule(x, "like 1;price 1;cost 1;");
+        }
+    }
+
     private static String at(int r, int c) {
         return "(" + r + ", " + c + ")";
     }
@@ -142,6 +162,7 @@ public final class EverywhereTests {
     /** Into the first seats of a ROW sit those that a SHEET tells; into no other ones. */
     private static void firstSeats(int s, int r, int n) {
         OverTheHeads x = openHall(ROWS, SEATS);
+        crowd(x, 9 * s + n + r);
         x.sheet(s, s % 3, SEATS);
         for (int c = 0; c < SEATS; c++) {
             x.cell(s, c, 1 + c % 3);
@@ -323,6 +344,7 @@ public final class EverywhereTests {
     private static void copyOf(int sort, int[] call) {
         OverTheHeads x = Halls.hallOf(1, 1, 1, 1, 1, 1);
         int s = call[0], i = call[1], other = call[2], j = call[3], n = call[4];
+        crowd(x, 4 * i + j + 16 * n);
         String asked = "copy(" + s + ", " + i + ", " + other + ", " + j + ", " + n + ")";
         Halls.sheetOfSort(x, other, sort, 11, 12, 13, 14, 15, 16);
         Halls.sheetOfSort(x, s, sort, 1, 2, 3, 4, 5, 6);
@@ -561,26 +583,30 @@ public final class EverywhereTests {
     // ---- floors
 
     private static void floors() {
-        leastFloors();
-        for (int head = 1; head <= 5; head++) {
-            proofs(head);
+        for (int points = 1; points <= POINTS; points++) {
+            leastFloors(points);
+            for (int head = 1; head <= 5; head++) {
+                proofs(head, points);
+            }
         }
         for (int r = 0; r < ROWS; r++) {
             steps(r);
         }
     }
 
-    /** ROWS of one seat, straight behind one another, and a POINT at HIGH 0: so what counts are FARS alone. */
-    private static OverTheHeads inOneLine(int head) {
+    /** ROWS of one seat, straight behind one another, and POINTS at HIGH 0: so what counts are FARS alone. */
+    private static OverTheHeads inOneLine(int head, int points) {
         OverTheHeads x = openHall(ROWS, 1);
-        x.point(0, 0, 1);
+        for (int p = 0; p < points; p++) {
+            x.point(0, 0, 1);
+        }
         x.sort(0, 1, head);
         return x;
     }
 
-    private static void leastFloors() {
-        Due.about("promise 25, needs: of each ROW");
-        OverTheHeads x = inOneLine(3);
+    private static void leastFloors(int points) {
+        Due.about("promise 25, needs: of each ROW, for " + points + " POINTS");
+        OverTheHeads x = inOneLine(3, points);
         for (int r = 0; r < ROWS; r++) {
             // the first head is at 3: a by r and 1 of the eyes has to be more
             Due.is("needs(" + r + ")", x.needs(r), r == 0 ? 0 : Math.max(0, 3 * (r + 1) + 1 - 10));
@@ -593,9 +619,9 @@ public final class EverywhereTests {
         }
     }
 
-    private static void proofs(int head) {
-        Due.about("promise 26, proof: of each ROW, heads at " + head);
-        OverTheHeads x = inOneLine(head);
+    private static void proofs(int head, int points) {
+        Due.about("promise 26, proof: of each ROW, heads at " + head + ", for " + points + " POINTS");
+        OverTheHeads x = inOneLine(head, points);
         int[] rises = new int[ROWS];
         for (int r = 0; r < ROWS; r++) {
             rises[r] = r == 0 ? 0 : rises[r - 1];
@@ -661,6 +687,7 @@ public final class EverywhereTests {
                 x.point(0, 50 + r, 6 * steps[r]);
                 digits = 10 * digits + steps[r];
             }
+            addWorthless(x, POINTS - built);
             like(x, "(row=high-50)*(rise=value)*5");
             Due.is("coin(0, 0) of " + rows, x.coin(0, 0), digits);
             Due.is("coin(99999, 1) of " + rows, x.coin(99999, 1), 5 * built);
@@ -672,6 +699,7 @@ public final class EverywhereTests {
         for (int high = 0; high <= 60; high += 20) {
             OverTheHeads x = openHall(2, 2);
             x.point(0, high, high + lift);
+            addWorthless(x, high / 12);
             like(x, "(high=value)*7");
             Due.is("stage of HIGH " + high, x.stage(), lift);
         }
@@ -721,6 +749,7 @@ public final class EverywhereTests {
         for (int e = 0; e < SEATS; e++) {
             OverTheHeads x = openHall(ROWS, SEATS);
             x.point(0, 0, 2 * e);
+            addWorthless(x, e % POINTS);
             like(x, "sort*(place=value)*9");
             x.sit(r, c, 1 + r % 3);
             int seats = c == e ? -1 : 10 * Math.min(c, e) + Math.max(c, e), more = c == e ? 0 : 9 * (1 + r % 3);

@@ -14,7 +14,7 @@ public final class Example {
 
         // who hides it from the seat behind the tall one: 10 times the ROW, and the seat
         System.out.println("hidden by " + hall.hidden(behind, 1, soloist));
-        System.out.println("seen by all: " + hall.all(2) + " of 8, worth " + hall.all(1));
+        System.out.println(hall.all(2) + " of 8 see all, ALL WORTH is " + hall.all(1));
 
         // CHANCE is a fraction: part 0 above, part 1 below the line
         System.out.println("chance " + hall.chance(behind, 1, soloist, 0) + " by " + hall.chance(behind, 1, soloist, 1));
@@ -46,7 +46,7 @@ public final class Example {
         System.out.println("a seventh seat: " + hall.sit(front, 6, 0) + ", a row without seats: " + hall.row(0, 0, 0));
     }
 
-    /** The bytes of a text come behind THE TAPE's, eight at most at once, the highest first. */
+    /** A text comes behind THE TAPE's bytes; here one by one, though a call takes up to eight, the highest first. */
     private static void feed(OverTheHeads hall, String text) {
         for (int i = 0; i < text.length(); i++) {
             hall.feed(text.charAt(i), 1);
